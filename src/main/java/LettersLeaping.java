@@ -574,7 +574,7 @@ public final class LettersLeaping {
         return left;
     }
 
-    /** Takes a jetty's letters out of the bag, the others staying as they lay: how many are left. */
+    /** Takes a jetty's letters out, the others staying as they lay: how many are left. */
     private int takeLetters(int jetty, int left) {
         int stay = 0;
         for (int i = 0; i < left; i++) {
