@@ -556,10 +556,9 @@ public final class LettersLeaping {
         for (int i = 0; i < k; i++) {
             int jetty = (int) shelves[t].at(i);
             int lowest = lowestLetter(jetty, left);
-            int above = left - lowest;
             left = takeLetters(jetty, left);
-            int taken = above - (left - lowest);
-            lifted += above - taken;
+            // What lies from that place on now was above it, and is no letter of this jetty.
+            lifted += left - lowest;
         }
         return lifted;
     }

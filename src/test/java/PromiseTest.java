@@ -532,13 +532,15 @@ public final class PromiseTest {
             "boat 0", "boat 100", "boat 004", "speed 0", "speed 10", "pace 0", "pace 10", "box 100",
             "high 10", "wet 100", "wind 100", "skill 10", "leg 0", "leg 10", "leg 1#", "leg#", "#leg 1",
             "leg -1", "leg\t1", "leg 1;wind 5;skill 4x", "leg 1,box 1", "wet", "leg 1;wet12;x",
-            "leg 12345678901234567890", "leg" + (char) 233 + " 1", "le g 1"};
+            "leg 12345678901234567890", "leg" + (char) 233 + " 1", "le g 1", "goat 1", "beg 1", "les 1",
+            "leg 1;ind 1"};
         int[] faults = {0, 3, 4, 5, 7, 8, 0, 4, 7,
             0, 5, 7, 7, 0, 0, 0, 7,
             5, 5, 5, 6, 6, 5, 5, 4,
             5, 4, 5, 6, 4, 4, 5, 3, 0,
             4, 3, 20, 5, 3, 12,
-            4, 3, 0};
+            4, 3, 0, 0, 0, 0,
+            6};
         for (int i = 0; i < texts.length; i++) {
             due("law of \"" + texts[i] + "\"", law(x, texts[i]), -20 - faults[i]);
             due("empty then", x.status(4), 0);
@@ -957,6 +959,22 @@ public final class PromiseTest {
         due("seven", x.team(127, 6, 0, NONE), BAD);
         due("six", x.team(63, 3, 0, NONE), 10 + 40 + 30 + 90 + 90 + 10);
         refused(x, 11, 0, 0, 2, 0);
+        teamsByOneThousandth();
+    }
+
+    private static void teamsByOneThousandth() {
+        LettersLeaping x = new LettersLeaping();
+        x.force(law(x, "high 1;skill 1"));
+        x.jetty(0, 0, 1, 50);
+        x.jetty(0, 0, 1, 50);
+        x.leaper(0);
+        x.leaper(1);
+        x.leaper(1);
+        due("one less", x.team(1, 1, 0, NONE), 29);
+        due("of several the first", x.team(1, 1, 0, 0), 1);
+        due("two less", x.team(3, 1, 0, NONE), 58);
+        due("of several the first", x.team(3, 1, 0, 0), 1);
+        due("then the next one's", x.team(3, 1, 0, 1), 2);
     }
 
     private static void safests() {
@@ -1038,6 +1056,10 @@ public final class PromiseTest {
         due("8 by 3, rounded up", x.pilot(0, 1, 3), 3);
         due("8 by 8", x.pilot(0, 1, 1), 8);
         due("none", x.pilot(0, 1, 0), NONE);
+        row(x, 4, 0, 1);
+        x.force(law(x, "leg 9"));
+        due("45 by 9", x.pilot(4, 1, 5), 9);
+        x.force(NONE);
         due("the law's speed stays", x.leg(0, 4), 2);
         x.force(law(x, "leg 1;speed 9"));
         due("by the law's legs", x.pilot(0, 1, 3), 2);
@@ -1512,12 +1534,61 @@ public final class PromiseTest {
         x.seed(5);
         due("the same again", x.step(), first);
         due("the same again", x.step(), second);
+        newOnesAreNew(x);
+        keepsDropsAndMisses();
         LettersLeaping y = rounds();
         y.image();
         y.begin(0, 0, 3);
         y.back();
         due("none was begun", y.under(0), STUCK);
         due("none was begun", y.step(), STUCK);
+    }
+
+    /** What comes again under a number that was given back has nothing of the one ahead. */
+    private static void newOnesAreNew(LettersLeaping x) {
+        x.jetty(5, 0, 1, 0);
+        x.wet(3, true);
+        x.leaper(9);
+        x.tried(2, 9, 9);
+        x.parcel(0, 1, 99);
+        x.back();
+        x.jetty(0, 7, 2, 3);
+        due("dry", x.jettyOf(3, 5), 0);
+        due("its kind", x.jettyOf(3, 0), 0);
+        x.leaper(8);
+        due("its skill", x.leaperOf(2, 0), 8);
+        due("no leaps", x.leaperOf(2, 1), 0);
+        due("no drops", x.leaperOf(2, 2), 0);
+        x.parcel(0, 60, 1);
+        due("its minutes", x.stops(10), 1);
+    }
+
+    private static void keepsDropsAndMisses() {
+        LettersLeaping x = rounds();
+        row(x, 0, 2, 2, 2, 2, 0);
+        x.begin(1, 0, 4);
+        x.seed(seedFor(0));
+        x.step();
+        x.seed(seedFor(500));
+        x.step();
+        x.image();
+        x.seed(seedFor(0));
+        x.step();
+        x.back();
+        due("goes on", x.under(2), 15 + 1 + 12 + 1);
+        due("drops", x.under(3), 1);
+        due("misses", x.under(4), 1);
+        x.seed(seedFor(500));
+        x.step();
+        x.begin(0, 0, 1);
+        due("none of the one given up", x.under(3), 0);
+        due("none of the one given up", x.under(4), 0);
+        x.back();
+        due("the leaper that was", x.under(0), 1);
+        x.step();
+        x.step();
+        due("all its jetties", x.step(), STUCK);
+        due("four", x.under(1), 4);
     }
 
     private static void statuses() {
