@@ -1131,6 +1131,7 @@ public final class PromiseTest {
         x.row(7, 0, 40);
         x.set(7, 0, 1);
         due("39 above", x.lifts(7, 40, 5, 1), 39);
+        due("no letter of 40", x.lifts(7, 40, 6, 2), 0);
         x = rounds();
         row(x, 4, 1, 0, 0);
         due("no shelf, of a jetty", x.lifts(8, 0, 2, 0), BAD);
