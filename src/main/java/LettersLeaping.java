@@ -49,6 +49,8 @@ public final class LettersLeaping {
     private static final int LAST_WEEK = 20;
     private static final int MOST_FALL = 20;
     private static final int SHOWN_JETTY = 10;
+    /** Above every risk and every minute that the limits let be. */
+    private static final int ABOVE_ALL = 1000000;
 
     private static final int JETTY = 0;
     private static final int PIER = 1;
@@ -861,7 +863,7 @@ public final class LettersLeaping {
 
     /** a (0 on) by b, rounded up. */
     private static int roundedUpBy(int a, int b) {
-        return cutBy(a + b - 1, b);
+        return b < 1 ? 0 : (a + b - 1) / b;
     }
 
     private static int hourOf(int minute) {
@@ -1322,8 +1324,8 @@ public final class LettersLeaping {
         }
 
         private int lawValue(int what) {
-            Law law = isBelow(lawInForce, lawCount) ? laws[lawInForce] : lawAtFirst;
-            return law.values[what];
+            boolean isForced = lawInForce >= 0 && lawInForce < lawCount;
+            return isForced ? laws[lawInForce].values[what] : lawAtFirst.values[what];
         }
 
         int speed() {
@@ -1438,10 +1440,10 @@ public final class LettersLeaping {
             leaper = newLeaper;
             latest = newLatest;
             count = readSet(set, jetties);
-            bestRisk = Integer.MAX_VALUE;
-            bestEnd = Integer.MAX_VALUE;
+            bestRisk = ABOVE_ALL;
+            bestEnd = ABOVE_ALL;
             extend(this, 0, lake.harbour, 0, 0);
-            return bestRisk != Integer.MAX_VALUE;
+            return bestRisk != ABOVE_ALL;
         }
 
         /**
@@ -1499,7 +1501,7 @@ public final class LettersLeaping {
             leaperCount = lake.leaperCount;
             count = readSet(set, jetties);
             readRisks(lake, hour);
-            bestSum = Integer.MAX_VALUE;
+            bestSum = ABOVE_ALL;
             assign(this, 0, 0);
         }
 

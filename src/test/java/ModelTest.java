@@ -845,7 +845,8 @@ public final class ModelTest {
                 }
             }
         }
-        while (calls < 512) {
+        // An object is good for 512 calls, and a text may take a hundred of them.
+        while (calls < 400) {
             if (r.nextInt(60) == 0) {
                 for (char c : text(r).toCharArray()) {
                     calls++;
