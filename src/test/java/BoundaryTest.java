@@ -91,6 +91,7 @@ public final class BoundaryTest {
         showsNothing();
         saysItsOwn();
         jettyNumbers();
+        jettyOfAll();
         jettyOfNow();
         wetTwice();
         risesBelowZero();
@@ -103,6 +104,7 @@ public final class BoundaryTest {
         lawsEmptyTheTape();
         lawOfAll();
         forcesNone();
+        leaperOfAll();
         leapersAndTried();
         learntAndLearn();
         calmOfSeveral();
@@ -123,12 +125,17 @@ public final class BoundaryTest {
         outsFromZeroToTwenty();
         seeds();
         beginsAnew();
+        beginsWithTwenty();
         stepsToTheEnd();
         underAtFirst();
         imagesOfNothing();
+        imagesOfFullLakes();
         imagesWithoutShelves();
         backToFewer();
         backAndOnAgain();
+        backToLeapers();
+        backToRounds();
+        newOnesAfterBack();
         statuses();
         System.out.println(wrong == 0 ? checked + " answers at boundaries are as due" : wrong + " are not as due");
         if (wrong != 0) {
@@ -265,6 +272,12 @@ public final class BoundaryTest {
         }
         due("of a jetty", x.element(1, 0), 0);
         due("of nothing", x.element(2, 0), 0);
+        row(x, 3, 3, 7, 8);
+        x.show(3, 0);
+        due("of a jetty where a row was", x.element(3, 0) + x.element(3, 1), 0);
+        row(x, 3, 3, 7, 8);
+        x.show(3, NONE);
+        due("of nothing where a row was", x.element(3, 0) + x.element(3, 1), 0);
         for (int s : new int[] {-1, 8, MIN, MAX}) {
             due("of shelf " + s, x.element(s, 0), 0);
         }
@@ -276,7 +289,7 @@ public final class BoundaryTest {
     }
 
     private static void holdsNumbers() {
-        of(6, "NONE NOTHING, no SHELF; 0 to 4 a ROW by its SORT; 10 and the number of a JETTY.");
+        of(6, "What SHELF s holds: NONE NOTHING, no SHELF; 0 to 4 a ROW by its SORT; 10 and the number of a JETTY.");
         LettersLeaping x = new LettersLeaping();
         for (int i = 0; i < 20; i++) {
             x.jetty(i % 6, 0, 1, 0);
@@ -316,7 +329,7 @@ public final class BoundaryTest {
     }
 
     private static void saysItsOwn() {
-        of(8, "JETTY its SPOT; PIER, STAIR PACES (its own); RAFT, FLOAT RISE (its own) now (0 on); ROCK 1 if it is WET, else 0.");
+        of(8, "What the JETTY in SHELF s, taken for one of a KIND, says: JETTY its SPOT; PIER, STAIR PACES (its own); RAFT, FLOAT RISE (its own) now (0 on); ROCK 1 if it is WET, else 0.");
         LettersLeaping x = new LettersLeaping();
         int o = OTHER;
         int[][] least = {{0, o, o, o, o, o}, {0, 2, o, o, o, o}, {0, 6, 6, o, o, o}, {0, o, o, 0, o, o}, {0, o, o, 0, 0, o},
@@ -355,6 +368,26 @@ public final class BoundaryTest {
         due("bad, and full", x.jetty(0, 0, 1, 100), BAD);
         due("full", x.jetty(0, 0, 1, 99), FULL);
         due("the greatest stays", x.jettyOf(1, 3), 99);
+    }
+
+    private static void jettyOfAll() {
+        of(10, "Of a JETTY: KIND (0), SPOT (1), LENGTH (2), HEIGHT (3), PACES (4), 1 if WET (5)");
+        LettersLeaping x = new LettersLeaping();
+        int[][] least = {{0, 0, 1, 0, 1, 0}, {1, 0, 1, 0, 2, 0}, {2, 0, 1, 0, 6, 0}, {3, 0, 1, 0, 1, 0}, {4, 0, 1, 0, 3, 0},
+            {5, 0, 1, 0, 1, 0}};
+        int[][] most = {{0, 255, 30, 99, 30, 1}, {1, 255, 30, 99, 60, 1}, {2, 255, 30, 99, 64, 1}, {3, 255, 30, 99, 30, 1},
+            {4, 255, 30, 99, 32, 1}, {5, 255, 30, 99, 1, 1}};
+        for (int kind = 0; kind < 6; kind++) {
+            int low = x.jetty(kind, 0, 1, 0);
+            int high = x.jetty(kind, 255, 30, 99);
+            x.wet(high, true);
+            for (int what = 0; what < 6; what++) {
+                due("jettyOf(" + low + ", " + what + ")", x.jettyOf(low, what), least[kind][what]);
+                due("jettyOf(" + high + ", " + what + ")", x.jettyOf(high, what), most[kind][what]);
+            }
+        }
+        due("what -1", x.jettyOf(0, -1), BAD);
+        due("what 8", x.jettyOf(0, 8), BAD);
     }
 
     private static void jettyOfNow() {
@@ -533,9 +566,10 @@ public final class BoundaryTest {
     }
 
     private static void lawsEmptyTheTape() {
-        of(18, "THE TAPE is empty then, either way.");
+        of(18, "THE TAPE is a LAW: its number;");
         LettersLeaping x = new LettersLeaping();
-        due("a law", law(x, "leg 1"), 0);
+        due("the first", law(x, "leg 1"), 0);
+        of(18, "THE TAPE is empty then, either way.");
         due("empty then", x.status(4), 0);
         due("a fault", law(x, "leg 1 #"), -26);
         due("empty then", x.status(4), 0);
@@ -556,7 +590,7 @@ public final class BoundaryTest {
     }
 
     private static void lawOfAll() {
-        of(19, "boat (0), speed (1), pace (2), box (3), high (4), wet (5), wind (6), skill (7), leg (8). BAD.");
+        of(19, "Of a LAW: boat (0), speed (1), pace (2), box (3), high (4), wet (5), wind (6), skill (7), leg (8). BAD.");
         LettersLeaping x = new LettersLeaping();
         law(x, "boat 1;speed 1;pace 1;box 0;high 0;wet 0;wind 0;skill 0;leg 1");
         law(x, "boat 99;speed 9;pace 9;box 99;high 9;wet 99;wind 99;skill 9;leg 9");
@@ -607,6 +641,25 @@ public final class BoundaryTest {
         due("the other one's leaps", x.leaperOf(0, 1), 0);
     }
 
+    private static void leaperOfAll() {
+        of(22, "Of a LEAPER: SKILL (0), LEAPS (1), DROPS (2). BAD.");
+        LettersLeaping x = new LettersLeaping();
+        int[] skills = {0, 99, 7, 8, 9, 10};
+        for (int i = 0; i < 6; i++) {
+            x.leaper(skills[i]);
+            x.tried(i, 10 + i, i);
+        }
+        for (int i = 0; i < 6; i++) {
+            due("skill of " + i, x.leaperOf(i, 0), skills[i]);
+            due("leaps of " + i, x.leaperOf(i, 1), 10 + i);
+            due("drops of " + i, x.leaperOf(i, 2), i);
+        }
+        due("what -1", x.leaperOf(0, -1), BAD);
+        due("what 3", x.leaperOf(0, 3), BAD);
+        due("leaper 6", x.leaperOf(6, 0), BAD);
+        due("leaper -1", x.leaperOf(-1, 0), BAD);
+    }
+
     private static void learntAndLearn() {
         of(25, "SKILL becomes what is LEARNT: the one ahead.");
         LettersLeaping x = new LettersLeaping();
@@ -649,6 +702,12 @@ public final class BoundaryTest {
         x.wind(0, 9);
         due("none of risk for her, by any wind", x.calm(1, 0), 0);
         due("1000 in every hour: the first", x.calm(0, 1), 0);
+        for (int hour = 0; hour < 12; hour++) {
+            for (int other = 0; other < 12; other++) {
+                x.wind(other, other == hour ? 3 : 4);
+            }
+            due("hour " + hour + " alone is calm", x.calm(0, 0), hour);
+        }
     }
 
     // ---- rounds ----
@@ -712,6 +771,10 @@ public final class BoundaryTest {
         due("one by 3", x.best(0, 2, 3, 1), 3);
         due("one by 2", x.best(0, 2, 2, 1), STUCK);
         due("after a stuck one", x.best(0, 7, 999, 1), 11);
+        of(30, "BEST: ITS RISK (what 0), ITS END (1), the JETTY at place i (10 and i).");
+        x.leaper(10);
+        due("by another leaper", x.best(1, 7, 11, 0), 0);
+        due("by the first again", x.best(0, 7, 11, 0), 40);
     }
 
     private static void teamSums() {
@@ -761,7 +824,7 @@ public final class BoundaryTest {
     }
 
     private static void missedAtTheLast() {
-        of(33, "ITS END (what 0; at the last one it stays)");
+        of(33, "A ROUND as round() tells it, with a MISS at place i (0 on) of it: ITS END (what 0; at the last one it stays)");
         LettersLeaping x = rafts("leg 1;speed 2", 4, 8);
         row(x, 0, 0, 0, 1, 0);
         due("without", x.round(0, 0, 3, 1), 2 + 3 + 3);
@@ -777,7 +840,7 @@ public final class BoundaryTest {
     }
 
     private static void missedLaterHours() {
-        of(33, "how many of its JETTIES (each time) come in a later HOUR than without (2).");
+        of(33, "ITS RISK (1), how many of its JETTIES (each time) come in a later HOUR than without (2).");
         LettersLeaping x = rafts("leg 2;speed 1", 248);
         x.row(0, 0, 20);
         // far 15 and 8: minutes 46 to 65 without, three later with a miss
@@ -796,7 +859,7 @@ public final class BoundaryTest {
     }
 
     private static void missedInTheLastHour() {
-        of(33, "how many of its JETTIES (each time) come in a later HOUR than without (2).");
+        of(33, "ITS RISK (1), how many of its JETTIES (each time) come in a later HOUR than without (2).");
         LettersLeaping x = rafts("leg 9;speed 1", 255, 0, 13, 12);
         // minutes 270, 541, 659, 669, 670; with a miss at 1 those of 659 on are three later
         row(x, 0, 0, 0, 1, 2, 3, 3);
@@ -807,7 +870,8 @@ public final class BoundaryTest {
     }
 
     private static void pilotAtItsEdges() {
-        of(34, "The least speed (1 to 9), all else being as by the LAW in force, by which a ROUND");
+        of(34, "The least speed (1 to 9), all else being as by the LAW in force, by which a ROUND "
+                + "(the first n elements, 0 to 20, of the ROW in SHELF s: JETTIES) ends by a told minute (0 to 999); NONE: none.");
         LettersLeaping x = rafts("leg 9;speed 5", 2, 2);
         row(x, 0, 0, 0, 1);
         int[] ends = {18, 9, 6, 5, 4, 3, 3, 3, 2};
@@ -823,6 +887,10 @@ public final class BoundaryTest {
         due("by 17", x.pilot(0, 1, 17), 2);
         due("by 1", x.pilot(0, 1, 1), NONE);
         due("by 0", x.pilot(0, 1, 0), NONE);
+        LettersLeaping ten = rafts("leg 5;speed 1", 2);
+        ten.row(0, 0, 1);
+        due("10 by 9 are 2", ten.pilot(0, 1, 2), 5);
+        due("10 by 10 were 1", ten.pilot(0, 1, 1), NONE);
         due("both, by 2", x.pilot(0, 2, 2), NONE);
         due("by 999", x.pilot(0, 1, 999), 1);
         due("none at all, by 0", x.pilot(0, 0, 0), 1);
@@ -875,6 +943,13 @@ public final class BoundaryTest {
         due("no jetties", x.firstOut(1), NONE);
         x.jetty(4, 0, 1, 99);
         due("a float never", x.firstOut(20), NONE);
+        LettersLeaping alone = new LettersLeaping();
+        alone.jetty(0, 0, 1, 70);
+        due("the one there is", alone.firstOut(1), 0);
+        alone.jetty(0, 0, 1, 70);
+        due("the first of two alike", alone.firstOut(1), 0);
+        alone.jetty(0, 0, 1, 71);
+        due("the last", alone.firstOut(1), 2);
         x.jetty(0, 0, 1, 70);
         x.jetty(0, 0, 1, 75);
         due("the higher one is out earlier", x.firstOut(1), 2);
@@ -1008,10 +1083,41 @@ public final class BoundaryTest {
         due("the one begun stays", x.under(0), 1);
         due("the same again", x.begin(1, 1, 3), 3);
         due("from its beginning", x.under(1), 0);
+        // 1000 of risk: a miss and a drop, and none of them in the next round
+        x.jetty(3, 0, 1, 99);
+        row(x, 2, 0, 2, 2, 2);
+        x.begin(0, 2, 3);
+        x.seed(seedFor(0));
+        due("a miss", x.step(), 2);
+        x.seed(seedFor(500));
+        due("a drop", x.step(), 1);
+        due("drops", x.under(3), 1);
+        due("misses", x.under(4), 1);
+        x.begin(0, 0, 20);
+        due("no drops yet", x.under(3), 0);
+        due("no misses yet", x.under(4), 0);
+        due("no leaps yet", x.under(1), 0);
+        due("in minute 0", x.under(2), 0);
+    }
+
+    private static void beginsWithTwenty() {
+        of(43, "how many JETTIES.");
+        LettersLeaping x = rafts("leg 1;speed 1", 5, 15);
+        x.row(0, 0, 40);
+        x.set(0, 19, 1);
+        x.set(0, 20, 99);
+        due("twenty of forty", x.begin(0, 0, 20), 20);
+        for (int i = 0; i < 19; i++) {
+            x.step();
+        }
+        due("nineteen at the same spot", x.under(2), 5 + 19);
+        due("the twentieth", x.step(), 0);
+        due("the twentieth is another one", x.under(2), 5 + 19 + 10 + 1);
+        due("at its end", x.step(), STUCK);
     }
 
     private static void stepsToTheEnd() {
-        of(44, "STUCK: none is under way, it is at its end.");
+        of(44, "The next leap of it: 0 in the box, 1 a DROP, 2 a MISS. STUCK: none is under way, it is at its end.");
         LettersLeaping x = rafts("leg 1;speed 1", 5);
         due("none begun", x.step(), STUCK);
         due("no draw for it", x.status(5), 1);
@@ -1032,10 +1138,19 @@ public final class BoundaryTest {
         due("another one", x.step(), 0);
         due("at its end", x.step(), STUCK);
         due("stuck three times", x.status(15), 3);
+        x.jetty(3, 0, 1, 99);
+        row(x, 1, 0, 1, 1, 0, 1);
+        x.begin(0, 1, 4);
+        int[] draws = {99, 100, 0, 999};
+        int[] want = {2, 1, 0, 1};
+        for (int i = 0; i < 4; i++) {
+            x.seed(seedFor(draws[i]));
+            due("a draw of " + draws[i], x.step(), want[i]);
+        }
     }
 
     private static void underAtFirst() {
-        of(45, "LEAPER (0), leaps done (1), the minute in which the boat goes on (2), DROPS that were no MISS (3), MISSES (4).");
+        of(45, "Of it: LEAPER (0), leaps done (1), the minute in which the boat goes on (2), DROPS that were no MISS (3), MISSES (4).");
         LettersLeaping x = rafts("leg 1;speed 9;boat 99", 0);
         x.leaper(0);
         x.jetty(3, 0, 1, 81);
@@ -1099,6 +1214,55 @@ public final class BoundaryTest {
         due("a row stays", x.holds(0), 0);
     }
 
+    private static void imagesOfFullLakes() {
+        of(46, "All is kept");
+        LettersLeaping x = new LettersLeaping();
+        for (int i = 0; i < 20; i++) {
+            x.jetty(i % 6, i, 1 + i, 2 * i);
+            x.wet(i, i % 2 == 1);
+        }
+        for (int i = 0; i < 6; i++) {
+            x.leaper(10 + i);
+            law(x, "leg " + (i + 1));
+        }
+        for (int i = 0; i < 10; i++) {
+            x.parcel(0, 1 + i, 1 + i);
+        }
+        for (int hour = 0; hour < 12; hour++) {
+            x.wind(hour, hour % 10);
+        }
+        due("image", x.image(), 1);
+        for (int i = 0; i < 20; i++) {
+            x.wet(i, i % 2 == 0);
+        }
+        for (int hour = 0; hour < 12; hour++) {
+            x.wind(hour, 9);
+        }
+        for (int i = 0; i < 6; i++) {
+            x.tried(i, 9, 9);
+            x.learn(i);
+        }
+        due("back", x.back(), 1);
+        for (int i = 0; i < 20; i++) {
+            due("jetty " + i, x.jettyOf(i, 0) + 10 * x.jettyOf(i, 1), i % 6 + 10 * i);
+            due("wet " + i, x.jettyOf(i, 5), i % 2);
+        }
+        for (int i = 0; i < 6; i++) {
+            due("skill of " + i, x.leaperOf(i, 0), 10 + i);
+            due("leaps of " + i, x.leaperOf(i, 1), 0);
+            due("law " + i, x.lawOf(i, 8), i + 1);
+        }
+        for (int hour = 0; hour < 12; hour++) {
+            due("wind of hour " + hour, x.wind(hour, 0), hour % 10);
+        }
+        due("parcels", x.stops(55), 1023);
+        due("parcels", x.stops(10), 15);
+        due("full of jetties", x.jetty(0, 0, 1, 0), FULL);
+        due("full of leapers", x.leaper(0), FULL);
+        due("full of laws", x.law(), FULL);
+        due("full of parcels", x.parcel(0, 1, 1), FULL);
+    }
+
     private static void imagesWithoutShelves() {
         of(46, "All is kept, but THE TAPE, SHELVES and REFUSALS in status(): 1.");
         LettersLeaping x = new LettersLeaping();
@@ -1128,7 +1292,7 @@ public final class BoundaryTest {
     }
 
     private static void backToFewer() {
-        of(47, "SHELVES with JETTIES hold those of the same numbers, or NOTHING");
+        of(47, "(SHELVES with JETTIES hold those of the same numbers, or NOTHING): 1.");
         LettersLeaping x = new LettersLeaping();
         x.jetty(0, 11, 1, 0);
         x.jetty(0, 22, 1, 0);
@@ -1151,13 +1315,17 @@ public final class BoundaryTest {
         due("what it says", x.says(1, 0), 22);
         x.jetty(0, 55, 1, 0);
         due("a new jetty 2 is on no shelf", x.holds(2), NONE);
-        // back to a time with more jetties than now
+        // back to a time without any
         LettersLeaping y = new LettersLeaping();
         y.image();
         y.jetty(5, 66, 1, 0);
-        y.show(0, 0);
+        for (int s = 0; s < 8; s++) {
+            y.show(s, 0);
+        }
         y.back();
-        due("back to none", y.holds(0), NONE);
+        for (int s = 0; s < 8; s++) {
+            due("back to none, shelf " + s, y.holds(s), NONE);
+        }
         y.jetty(1, 77, 1, 0);
         y.show(0, 0);
         y.image();
@@ -1199,6 +1367,105 @@ public final class BoundaryTest {
         due("back to the newest alone", x.under(1), 2);
     }
 
+    private static void backToLeapers() {
+        of(47, "All is again as it was kept");
+        LettersLeaping x = rafts("leg 1;speed 1", 5);
+        x.leaper(33);
+        x.tried(1, 9, 4);
+        x.wet(0, true);
+        x.lake(0, 12);
+        x.lake(1, 34);
+        x.lake(2, 56);
+        x.image();
+        x.tried(1, 50, 50);
+        x.learn(1);
+        x.wet(0, false);
+        x.lake(0, 1);
+        x.lake(1, 2);
+        x.lake(2, 3);
+        x.force(NONE);
+        x.back();
+        due("skill", x.leaperOf(1, 0), 33);
+        due("leaps", x.leaperOf(1, 1), 9);
+        due("drops", x.leaperOf(1, 2), 4);
+        due("wet", x.jettyOf(0, 5), 1);
+        due("level", x.lake(0, 12), 0);
+        due("guests", x.lake(1, 34), 0);
+        due("harbour", x.lake(2, 56), 0);
+        due("the law in force", x.force(NONE), 0);
+    }
+
+    private static void backToRounds() {
+        of(47, "All is again as it was kept");
+        LettersLeaping x = rafts("leg 1;speed 1;boat 99", 5, 9, 15);
+        x.leaper(0);
+        x.jetty(3, 0, 1, 99);
+        row(x, 0, 0, 3, 3, 1, 2);
+        x.lake(2, 16);
+        x.begin(1, 0, 4);
+        x.seed(seedFor(0));
+        due("a miss", x.step(), 2);
+        x.seed(seedFor(500));
+        due("a drop", x.step(), 1);
+        due("1, 1, 3 and 1", x.under(2), 6);
+        x.image();
+        row(x, 0, 0, 0, 0, 0, 0, 0);
+        x.begin(0, 0, 5);
+        x.step();
+        x.back();
+        int[] want = {1, 2, 6, 1, 1};
+        for (int what = 0; what <= 4; what++) {
+            due("under(" + what + ")", x.under(what), want[what]);
+        }
+        due("the third leap", x.step(), 0);
+        due("from spot 0 to 9", x.under(2), 6 + 9 + 1);
+        due("the fourth leap", x.step(), 0);
+        due("from spot 9 to 15", x.under(2), 16 + 6 + 1);
+        due("at its end", x.step(), STUCK);
+        due("four leaps", x.under(1), 4);
+        x.back();
+        due("once more", x.under(1), 2);
+        row(x, 1, 0, 2, 2, 2, 2, 2, 2, 2, 2, 2, 2, 2, 2, 2, 2, 2, 2, 2, 2, 2, 1);
+        x.begin(0, 1, 20);
+        x.image();
+        x.row(2, 0, 20);
+        x.begin(0, 2, 20);
+        x.back();
+        for (int i = 0; i < 19; i++) {
+            x.step();
+        }
+        int minute = x.under(2);
+        due("the twentieth", x.step(), 0);
+        due("from spot 15 to 9", x.under(2), minute + 6 + 1);
+    }
+
+    private static void newOnesAfterBack() {
+        of(47, "All is again as it was kept");
+        LettersLeaping x = new LettersLeaping();
+        x.image();
+        x.jetty(5, 255, 30, 99);
+        x.wet(0, true);
+        x.leaper(99);
+        x.tried(0, 99, 99);
+        law(x, "boat 99;speed 9;leg 9");
+        x.parcel(0, 60, 99);
+        x.back();
+        due("jetty 0 anew", x.jetty(1, 7, 2, 3), 0);
+        int[] want = {1, 7, 2, 3, 4, 0};
+        for (int what = 0; what < want.length; what++) {
+            due("jettyOf(0, " + what + ")", x.jettyOf(0, what), want[what]);
+        }
+        due("leaper 0 anew", x.leaper(5), 0);
+        due("skill", x.leaperOf(0, 0), 5);
+        due("leaps", x.leaperOf(0, 1), 0);
+        due("drops", x.leaperOf(0, 2), 0);
+        due("law 0 anew", law(x, "box 1"), 0);
+        due("boat", x.lawOf(0, 0), 40);
+        due("leg", x.lawOf(0, 8), 2);
+        due("parcel 0 anew", x.parcel(0, 1, 1), 0);
+        due("its minutes", x.stops(1), 1);
+    }
+
     private static void statuses() {
         of(48, "12 to 16: REFUSALS -2 to -6. NONE another what.");
         LettersLeaping x = new LettersLeaping();
@@ -1224,10 +1491,44 @@ public final class BoundaryTest {
             due("status(" + what + ")", x.status(what), NONE);
         }
         due("nothing of this is refused", x.status(12), 1);
+        statusOfAll();
         of(48, "SHELVES that hold something (6)");
         for (int s = 0; s < 8; s++) {
             x.row(s, 0, 0);
             due("rows of 0 are something", x.status(6), s + 1);
+        }
+    }
+
+    private static void statusOfAll() {
+        of(48, "JETTIES (0), LAWS (1), LEAPERS (2), PARCELS (3), THE TAPE's size (4), SEED (5), SHELVES that hold something (6), "
+                + "GUESTS (7), HARBOUR (8)");
+        LettersLeaping x = new LettersLeaping();
+        int[] empty = {0, 0, 0, 0, 0, 1, 0, 0, 0};
+        for (int what = 0; what <= 8; what++) {
+            due("status(" + what + ") at first", x.status(what), empty[what]);
+        }
+        for (int i = 0; i < 20; i++) {
+            x.jetty(0, 0, 1, 0);
+        }
+        for (int i = 0; i < 6; i++) {
+            x.leaper(0);
+            law(x, "leg 1");
+        }
+        for (int i = 0; i < 10; i++) {
+            x.parcel(0, 1, 1);
+        }
+        for (int i = 0; i < 40; i++) {
+            x.feed(0, 4);
+        }
+        x.seed(MIN);
+        for (int s = 0; s < 8; s++) {
+            x.show(s, 0);
+        }
+        x.lake(1, 60);
+        x.lake(2, 255);
+        int[] full = {20, 6, 6, 10, 160, MIN, 8, 60, 255};
+        for (int what = 0; what <= 8; what++) {
+            due("status(" + what + ") of all that may be", x.status(what), full[what]);
         }
     }
 }

@@ -332,7 +332,7 @@ public final class RefusalTest {
 
     /** Without this the twins could differ by themselves, or tell too little. */
     private static void noObjectTellsMoreThanItsCalls() {
-        of(0, "nothing changes but how many there were");
+        of(0, "REFUSALS (the call answers the number; nothing changes but how many there were");
         due("two lakes alike", askAll(lake()).equals(askAll(lake())) ? 1 : 0, 1);
         Call[] changes = {x -> x.row(EMPTY, 0, 0), x -> x.set(ROUND, 0, 1), x -> x.show(A_JETTY, 2), x -> x.wet(3, true),
             x -> x.jetty(0, 0, 1, 0), x -> x.lake(0, LEVEL + 1), x -> x.lake(1, 22), x -> x.lake(2, 34), x -> x.wind(11, 4),
@@ -654,6 +654,7 @@ public final class RefusalTest {
         refuses(BAD, name + " with a jetty too many", x -> call.of(x, NO_ROUND, 2));
         for (long v : new long[] {LAST_JETTY + 1, -1, 1L << 32, Long.MIN_VALUE, Long.MAX_VALUE}) {
             refuses(() -> lastTold(v), BAD, BAD, name + " with a last element " + v, x -> call.of(x, NO_ROUND, 2));
+            refuses(() -> firstTold(v), BAD, BAD, name + " with a first element " + v, x -> call.of(x, NO_ROUND, 1));
         }
         accepts(() -> lastTold(LAST_JETTY), name + " with the last jetty", x -> call.of(x, NO_ROUND, 2));
     }
@@ -661,6 +662,12 @@ public final class RefusalTest {
     private static LettersLeaping lastTold(long v) {
         LettersLeaping x = lake();
         x.set(NO_ROUND, 1, v);
+        return x;
+    }
+
+    private static LettersLeaping firstTold(long v) {
+        LettersLeaping x = lake();
+        x.set(NO_ROUND, 0, v);
         return x;
     }
 
@@ -818,6 +825,8 @@ public final class RefusalTest {
         for (long v : new long[] {LAST_JETTY + 1, -1, 1L << 32, Long.MIN_VALUE, Long.MAX_VALUE}) {
             refuses(() -> lastTold(v), BAD, BAD, "a letter for " + v, x -> x.lifts(NO_ROUND, 2, ROUND, 4));
             refuses(() -> lastTold(v), BAD, BAD, "a round to " + v, x -> x.lifts(ROUND, 4, NO_ROUND, 2));
+            refuses(() -> firstTold(v), BAD, BAD, "a first letter for " + v, x -> x.lifts(NO_ROUND, 1, ROUND, 4));
+            refuses(() -> firstTold(v), BAD, BAD, "a round first to " + v, x -> x.lifts(ROUND, 4, NO_ROUND, 1));
         }
         accepts(() -> lastTold(LAST_JETTY), "a letter for the last jetty", x -> x.lifts(NO_ROUND, 2, NO_ROUND, 2));
         accepts("no jetty behind those asked for", x -> x.lifts(NO_ROUND, 1, NO_ROUND, 1));

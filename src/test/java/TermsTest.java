@@ -5,6 +5,8 @@
  */
 public final class TermsTest {
     private static final int BAD = -2;
+    private static final int OTHER = -3;
+    private static final int NOTHING = -4;
     private static final int STUCK = -5;
     private static final int FULL = -6;
     private static final int NONE = LettersLeaping.NONE;
@@ -88,6 +90,7 @@ public final class TermsTest {
         intsAndLongs();
         booleans();
         jettyNumbers();
+        kinds();
         spots();
         lengthsAndHeights();
         risesOfJettiesAndRocks();
@@ -123,6 +126,7 @@ public final class TermsTest {
         riskOfOut();
         riskWithoutTime();
         riskBothWays();
+        riskOfWetAndWind();
         harbours();
         legsRoundedUp();
         hoursOfMinutes();
@@ -151,7 +155,10 @@ public final class TermsTest {
         missesTurn();
         asAtBegin();
         asAtEachStep();
+        stepsInTheirHours();
         refusalCounts();
+        firstThatFits();
+        risesBelowZero();
         System.out.println(wrong == 0 ? checked + " answers at boundaries are as due" : wrong + " are not as due");
         if (wrong != 0) {
             System.exit(1);
@@ -168,9 +175,12 @@ public final class TermsTest {
             due("shelf " + s + " at first", x.holds(s), NONE);
             due("shelf " + s + " gets a row", x.row(s, 3, 40), 1);
             due("shelf " + s + " with a row", x.holds(s), 3);
+            x.set(s, 0, 5);
+            x.set(s, 39, 6);
             due("shelf " + s + " gets a jetty", x.show(s, 0), 1);
             due("shelf " + s + " with a jetty", x.holds(s), 10);
             due("the row is gone", x.element(s, 0), 0);
+            due("the row is gone", x.element(s, 39), 0);
             due("the shelves that hold something", x.status(6), s + 1);
         }
         due("shelf -1", x.row(-1, 0, 1), BAD);
@@ -241,7 +251,7 @@ public final class TermsTest {
     }
 
     private static void jettyNumbers() {
-        of(0, "JETTIES have numbers, 0 on, 20 at most");
+        of(0, "JETTIES have numbers, 0 on, 20 at most, each of a KIND");
         LettersLeaping x = new LettersLeaping();
         for (int i = 0; i < 20; i++) {
             due("jetty " + i, x.jetty(i % 6, i, 1 + i, 2 * i), i);
@@ -256,6 +266,23 @@ public final class TermsTest {
             due("height of jetty " + i, x.jettyOf(i, 3), 2 * i);
         }
         due("no jetty 20", x.jettyOf(20, 0), BAD);
+    }
+
+    private static void kinds() {
+        of(0, "KIND: 0 JETTY; 1 PIER, under JETTY; 2 STAIR, under PIER; 3 RAFT, under JETTY; 4 FLOAT, under RAFT; 5 ROCK, under JETTY");
+        LettersLeaping x = new LettersLeaping();
+        due("kind -1", x.jetty(-1, 0, 1, 0), BAD);
+        due("kind 6", x.jetty(6, 0, 1, 0), BAD);
+        String[] under = {"0", "01", "012", "03", "034", "05"};
+        for (int kind = 0; kind < 6; kind++) {
+            due("kind " + kind, x.jetty(kind, 9, 1, 0), kind);
+            due("told", x.jettyOf(kind, 0), kind);
+            x.show(0, kind);
+            for (int as = 0; as < 6; as++) {
+                boolean mayBe = under[kind].indexOf('0' + as) >= 0;
+                due("kind " + kind + " taken for " + as, x.says(0, as) == OTHER ? 0 : 1, mayBe ? 1 : 0);
+            }
+        }
     }
 
     private static void spots() {
@@ -324,7 +351,7 @@ public final class TermsTest {
     }
 
     private static void paces() {
-        of(0, "JETTY, RAFT: LENGTH; PIER: twice LENGTH; STAIR: as PIER, and 4; FLOAT: as RAFT, and 2; ROCK: 1.");
+        of(0, "PACES: JETTY, RAFT: LENGTH; PIER: twice LENGTH; STAIR: as PIER, and 4; FLOAT: as RAFT, and 2; ROCK: 1.");
         int[] shortest = {1, 2, 6, 1, 3, 1};
         int[] longest = {30, 60, 64, 30, 32, 1};
         LettersLeaping x = new LettersLeaping();
@@ -417,7 +444,7 @@ public final class TermsTest {
     // ---- 2: laws and leaps ----
 
     private static void lawNumbers() {
-        of(0, "LAWS, 6 at most");
+        of(0, "LAWS, 6 at most, are read from THE TAPE");
         LettersLeaping x = new LettersLeaping();
         for (int i = 0; i < 6; i++) {
             due("law " + i, law(x, "leg " + (i + 1)), i);
@@ -562,6 +589,9 @@ public final class TermsTest {
         due("as at first, told later", x.lawOf(1, 8), 2);
         due("nothing of the law ahead", x.lawOf(1, 3), 3);
         due("a fault ahead of the later one", law(x, "leg 0;leg 1"), -24);
+        due("a fault behind others", law(x, "boat 99;speed 9;box 99;speed 0"), -49);
+        due("the law after it", law(x, "wet 1"), 2);
+        due("has nothing of the faulty one", x.lawOf(2, 0) + x.lawOf(2, 1) + x.lawOf(2, 3), 40 + 4 + 3);
     }
 
     private static void faultsOfWords() {
@@ -823,7 +853,7 @@ public final class TermsTest {
     }
 
     private static void riskBothWays() {
-        of(0, "high times how far RISE is from DECK");
+        of(0, "RISK of a LEAPER at a JETTY in an HOUR (thousandths): high times how far RISE is from DECK");
         LettersLeaping x = under("high 9;skill 0");
         x.leaper(0);
         int[][] heightAndRisk = {{0, 180}, {19, 9}, {20, 0}, {21, 9}, {80, 540}};
@@ -834,6 +864,24 @@ public final class TermsTest {
         x.jetty(1, 0, 1, 20);
         x.lake(0, 50);
         due("40 below 0", x.risk(0, 5, 0), 540);
+    }
+
+    private static void riskOfWetAndWind() {
+        of(0, "and wet if it is WET, and wind times the HOUR's WIND");
+        int[] numbers = {0, 1, 99};
+        for (int wet : numbers) {
+            for (int wind : numbers) {
+                LettersLeaping x = under("high 0;skill 0;wet " + wet + ";wind " + wind);
+                x.jetty(3, 0, 1, 20);
+                x.leaper(99);
+                x.wind(11, 9);
+                due("dry and calm", x.risk(0, 0, 0), 0);
+                due("dry, wind 9", x.risk(0, 0, 11), 9 * wind);
+                x.wet(0, true);
+                due("wet and calm", x.risk(0, 0, 0), wet);
+                due("wet, wind 9", x.risk(0, 0, 11), wet + 9 * wind);
+            }
+        }
     }
 
     // ---- 3: rounds ----
@@ -860,7 +908,7 @@ public final class TermsTest {
     }
 
     private static void legsRoundedUp() {
-        of(0, "a LEG takes leg minutes times FAR, by speed, rounded up.");
+        of(0, "FAR of two SPOTS: rows and columns between them, together; a LEG takes leg minutes times FAR, by speed, rounded up.");
         LettersLeaping x = under("leg 3;speed 4");
         int[] want = {0, 1, 2, 3, 3, 4, 5, 6, 6};
         for (int far = 0; far < want.length; far++) {
@@ -875,7 +923,7 @@ public final class TermsTest {
     }
 
     private static void hoursOfMinutes() {
-        of(0, "in the HOUR of the minute in which the boat comes there by 60 (11 at most)");
+        of(0, "A ROUND is a row of JETTIES: at each the leap is in the HOUR of the minute in which the boat comes there by 60 (11 at most)");
         LettersLeaping x = under("leg 2;speed 1;wind 1");
         x.jetty(3, 254, 1, 20);
         x.leaper(0);
@@ -891,7 +939,7 @@ public final class TermsTest {
     }
 
     private static void lastHour() {
-        of(0, "in the HOUR of the minute in which the boat comes there by 60 (11 at most)");
+        of(0, "A ROUND is a row of JETTIES: at each the leap is in the HOUR of the minute in which the boat comes there by 60 (11 at most)");
         LettersLeaping x = under("leg 9;speed 1;wind 1");
         x.jetty(3, 255, 1, 20);
         x.jetty(3, 0, 1, 20);
@@ -936,7 +984,7 @@ public final class TermsTest {
     }
 
     private static void endsWithoutAny() {
-        of(0, "ITS END: the minute in which it comes to the last one (0 without any).");
+        of(0, "ITS RISK: the sum of RISKS; ITS END: the minute in which it comes to the last one (0 without any).");
         LettersLeaping x = new LettersLeaping();
         x.leaper(0);
         x.row(0, 0, 0);
@@ -1095,7 +1143,7 @@ public final class TermsTest {
     }
 
     private static void teamOfSeveral() {
-        of(0, "of several the first by the least JETTY's LEAPER, then the next one's.");
+        of(0, "the least sum of RISKS, of several the first by the least JETTY's LEAPER, then the next one's.");
         LettersLeaping x = under("high 1;skill 1");
         for (int i = 0; i < 3; i++) {
             x.jetty(3, 0, 1, 70);
@@ -1111,6 +1159,24 @@ public final class TermsTest {
             due("three each, jetty " + i, x.team(7, 3, 0, i), 0);
         }
         due("the last jetty alone", x.team(4, 1, 0, 2), 0);
+        teamByOneThousandth();
+    }
+
+    private static void teamByOneThousandth() {
+        of(0, "the least sum of RISKS, of several the first by the least JETTY's LEAPER, then the next one's.");
+        LettersLeaping x = under("high 1;skill 1");
+        for (int i = 0; i < 3; i++) {
+            x.jetty(3, 0, 1, 70);
+        }
+        x.leaper(5);
+        x.leaper(6);
+        due("one less by the second", x.team(1, 1, 0, NONE), 44);
+        due("her", x.team(1, 1, 0, 0), 1);
+        due("three by the second", x.team(7, 3, 0, NONE), 3 * 44);
+        due("after these, two by the second", x.team(3, 2, 0, NONE), 2 * 44);
+        due("after these, one by the second", x.team(1, 2, 0, NONE), 44);
+        due("her", x.team(1, 2, 0, 0), 1);
+        due("after these, none", x.team(0, 2, 0, NONE), 0);
     }
 
     private static void learnt() {
@@ -1165,7 +1231,7 @@ public final class TermsTest {
     }
 
     private static void bagsWithoutLetters() {
-        of(0, "at each JETTY its letters are taken");
+        of(0, "On a ROUND, at each JETTY its letters are taken");
         due("an empty bag", lifts(new int[] {}, new int[] {0, 1}), 0);
         due("no round", lifts(new int[] {0, 1}, new int[] {}), 0);
         due("neither", lifts(new int[] {}, new int[] {}), 0);
@@ -1184,6 +1250,8 @@ public final class TermsTest {
         letters[0] = 1;
         due("40 letters, one at the bottom", lifts(letters, new int[] {1}), 39);
         due("40 letters, 39 above", lifts(letters, new int[] {0}), 0);
+        due("40 letters, none for it", lifts(letters, new int[] {2}), 0);
+        due("40 letters, all for it", lifts(new int[40], new int[] {0, 0}), 0);
         LettersLeaping x = bag(letters, new int[20]);
         x.set(1, 19, 1);
         due("20 jetties, the last alone lifts none", x.lifts(0, 40, 1, 20), 0);
@@ -1215,7 +1283,7 @@ public final class TermsTest {
     }
 
     private static void stopsAtTheirEdges() {
-        of(0, "that set of the greatest WORTH that takes no more than told minutes");
+        of(0, "STOPS: of PARCELS that set of the greatest WORTH that takes no more than told minutes");
         LettersLeaping x = new LettersLeaping();
         due("no parcels, 0 minutes", x.stops(0), 0);
         due("no parcels, 600 minutes", x.stops(600), 0);
@@ -1318,9 +1386,17 @@ public final class TermsTest {
 
     private static void missesAndDrops() {
         of(0, "a DRAW below 1000; below RISK / 10 (cut): a MISS");
+        leapsByDraws(true);
+        of(0, "else below RISK: a DROP; else the letters are in the box. LEAPS is 1 more each time, DROPS with a MISS or a DROP.");
+        leapsByDraws(false);
+    }
+
+    /** Draws at the edges of risks, either those of a miss or those of a drop. */
+    private static void leapsByDraws(boolean ofMisses) {
         int[] risks = {0, 1, 9, 10, 11, 19, 20, 21, 100, 990, 999, 1000};
         for (int risk : risks) {
-            int[] drawn = {0, 1, risk / 10 - 1, risk / 10, risk / 10 + 1, risk - 1, risk, risk + 1, 999};
+            int edge = ofMisses ? risk / 10 : risk;
+            int[] drawn = {0, 1, edge - 2, edge - 1, edge, edge + 1, 999};
             for (int draw : drawn) {
                 if (draw < 0 || draw > 999) {
                     continue;
@@ -1339,7 +1415,7 @@ public final class TermsTest {
     }
 
     private static void missesTurn() {
-        of(0, "it goes on speed times 3 minutes later than else");
+        of(0, "a MISS: she falls in, the boat turns: it goes on speed times 3 minutes later than else");
         for (int speed = 1; speed <= 9; speed++) {
             LettersLeaping x = under("leg 9;boat 99;speed " + speed);
             x.jetty(3, 0, 1, 80);
@@ -1361,7 +1437,7 @@ public final class TermsTest {
     }
 
     private static void asAtBegin() {
-        of(0, "JETTIES of the ROW and the HARBOUR as at begin()");
+        of(0, "A ROUND under way by a LEAPER (JETTIES of the ROW and the HARBOUR as at begin()");
         LettersLeaping x = under("leg 1;speed 1;high 0");
         x.jetty(3, 10, 1, 20);
         x.jetty(3, 15, 1, 20);
@@ -1416,29 +1492,111 @@ public final class TermsTest {
         due("all six", x.under(1), 6);
     }
 
+    private static void stepsInTheirHours() {
+        of(0, "at each JETTY, in the HOUR in which the boat comes there");
+        LettersLeaping x = under("leg 2;speed 1;wind 99;skill 0");
+        x.jetty(3, 254, 1, 20);
+        x.leaper(0);
+        x.wind(1, 1);
+        row(x, 0, 0, 0, 0, 0);
+        x.begin(0, 0, 3);
+        x.seed(seedFor(98));
+        due("minute 58 is of hour 0", x.step(), 0);
+        x.seed(seedFor(98));
+        due("minute 59 is of hour 0", x.step(), 0);
+        due("it goes on in minute 60", x.under(2), 60);
+        x.seed(seedFor(98));
+        due("minute 60 is of hour 1", x.step(), 1);
+        LettersLeaping y = under("leg 9;speed 1;wind 99;skill 0");
+        y.jetty(3, 255, 1, 20);
+        y.jetty(3, 0, 1, 20);
+        y.jetty(3, 13, 1, 20);
+        y.leaper(0);
+        y.wind(11, 1);
+        // minutes 270, 541, 659, 660, 957
+        row(y, 0, 0, 0, 1, 2, 2, 0, 0);
+        y.begin(0, 0, 6);
+        int[] want = {0, 0, 0, 1, 1, 1};
+        for (int i = 0; i < 6; i++) {
+            y.seed(seedFor(98));
+            due("hour 11 from minute 660 on, leap " + i, y.step(), want[i]);
+        }
+    }
+
     private static void refusalCounts() {
-        of(0, "-2 BAD a number that may not be, nothing of that number.");
         LettersLeaping x = new LettersLeaping();
-        for (int i = 1; i <= 40; i++) {
-            x.leaper(100);
-            due("BAD", x.status(12), i);
-            x.says(0, 0);
-            due("NOTHING", x.status(14), i);
-            x.step();
-            due("STUCK", x.status(15), i);
+        int[] counted = new int[5];
+        of(0, "-2 BAD a number that may not be, nothing of that number.");
+        for (int i = 1; i <= 20; i++) {
+            due("a number that may not be", x.leaper(100), BAD);
+            due("nothing of that number", x.leaperOf(0, 0), BAD);
+            counts(x, counted, 0, 2);
         }
+        of(0, "-4 NOTHING: a SHELF that holds NOTHING.");
+        for (int i = 1; i <= 10; i++) {
+            due("says", x.says(0, 0), NOTHING);
+            due("set", x.set(0, 0, 0), NOTHING);
+            counts(x, counted, 2, 2);
+        }
+        of(0, "-5 STUCK: it can't be as things stand.");
+        for (int i = 1; i <= 10; i++) {
+            due("step", x.step(), STUCK);
+            due("back", x.back(), STUCK);
+            counts(x, counted, 3, 2);
+        }
+        of(0, "-3 OTHER: a SHELF that holds another thing than is wanted.");
+        x.jetty(0, 0, 1, 0);
         x.row(0, 0, 0);
-        for (int i = 1; i <= 40; i++) {
-            x.says(0, 0);
-            due("OTHER", x.status(13), i);
+        x.show(1, 0);
+        for (int i = 1; i <= 10; i++) {
+            due("a row, not a jetty", x.says(0, 0), OTHER);
+            due("a jetty, not a row", x.set(1, 0, 0), OTHER);
+            counts(x, counted, 1, 2);
         }
-        due("FULL", x.status(16), 0);
+        of(0, "-6 FULL.");
         for (int i = 0; i < 6; i++) {
             x.leaper(0);
         }
-        for (int i = 1; i <= 40; i++) {
-            x.leaper(0);
-            due("FULL", x.status(16), i);
+        for (int i = 1; i <= 10; i++) {
+            due("leaper", x.leaper(0), FULL);
+            counts(x, counted, 4, 1);
         }
+    }
+
+    /** So many more of one refusal, and no others. */
+    private static void counts(LettersLeaping x, int[] counted, int which, int more) {
+        counted[which] += more;
+        for (int i = 0; i < 5; i++) {
+            due("status(" + (12 + i) + ")", x.status(12 + i), counted[i]);
+        }
+    }
+
+    private static void firstThatFits() {
+        of(0, "the first that fits as each line has them");
+        LettersLeaping x = new LettersLeaping();
+        x.jetty(0, 0, 1, 0);
+        x.show(0, 0);
+        due("a bad shelf, a jetty, nothing: BAD", x.copy(8, 0, 0, 0, 1), BAD);
+        due("a jetty, nothing, a bad place: OTHER", x.copy(0, 1, -1, 0, 1), OTHER);
+        due("nothing, a jetty, a bad place: OTHER", x.copy(1, 0, -1, 0, 1), OTHER);
+        due("nothing, a bad place: NOTHING", x.copy(1, 1, -1, 0, 1), NOTHING);
+        x.row(2, 0, 1);
+        due("a row, nothing, a bad place: NOTHING", x.copy(2, 1, -1, 0, 1), NOTHING);
+        due("a bad place: BAD", x.copy(2, 2, -1, 0, 1), BAD);
+        due("each is counted once: BAD", x.status(12), 2);
+        due("each is counted once: OTHER", x.status(13), 2);
+        due("each is counted once: NOTHING", x.status(14), 2);
+    }
+
+    private static void risesBelowZero() {
+        of(0, "(RISE may be below 0: calls that tell it answer -1000 and the number instead.)");
+        LettersLeaping x = new LettersLeaping();
+        x.jetty(1, 0, 1, 8);
+        for (int level = -7; level <= 3; level++) {
+            due("a rise like a refusal, at level " + level, x.rise(0, level), -2 - level);
+        }
+        due("none of these is refused", x.status(12), 0);
+        due("one that is", x.rise(1, 0), -1002);
+        due("and counted", x.status(12), 1);
     }
 }
