@@ -1269,7 +1269,6 @@ public final class LettersLeaping {
         final Law[] laws = new Law[MOST_LAWS];
         int lawCount;
         int lawInForce = NONE;
-        private final Law lawAtFirst = new Law();
         final Leaper[] leapers = new Leaper[MOST_LEAPERS];
         int leaperCount;
         final int[] parcelMinutes = new int[MOST_PARCELS];
@@ -1325,7 +1324,7 @@ public final class LettersLeaping {
 
         private int lawValue(int what) {
             boolean isForced = lawInForce >= 0 && lawInForce < lawCount;
-            return isForced ? laws[lawInForce].values[what] : lawAtFirst.values[what];
+            return isForced ? laws[lawInForce].values[what] : LAW_AT_FIRST[what];
         }
 
         int speed() {
